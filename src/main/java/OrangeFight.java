@@ -418,6 +418,8 @@ public final class OrangeFight {
         static final int SIGN = 3;
         static final int END = 4;
         static final int NO_TOKEN = 5;
+        static final int MOST_LETTERS = 7;
+        static final int MOST_DIGITS = 3;
 
         final int[] bytes = new int[MOST];
         int size;
@@ -473,40 +475,46 @@ public final class OrangeFight {
                 next++;
             }
             start = next;
+            key = NONE;
             if (size > limit && start >= limit) {
                 start = limit;
                 kind = NO_TOKEN;
             } else if (start >= size) {
                 kind = END;
-            } else if (isLetter(bytes[start]) || isDigit(bytes[start])) {
-                readRun();
             } else {
-                sign = bytes[start];
-                kind = isSign(sign) ? SIGN : NO_TOKEN;
-                next++;
+                readRun();
+                if (next == start) {
+                    sign = bytes[start];
+                    kind = isSign(sign) ? SIGN : NO_TOKEN;
+                    next++;
+                } else if (kind == WORD) {
+                    key = keyOf(word);
+                }
             }
         }
 
+        /** Small letters and digits as far as they go: a WORD, a NUMBER or neither. */
         private void readRun() {
             int letters = 0;
             int digits = 0;
             word = 0;
             number = 0;
-            while (next < size && (isLetter(bytes[next]) || isDigit(bytes[next]))) {
-                if (isDigit(bytes[next])) {
+            for (; next < size; next++) {
+                int b = bytes[next];
+                if (b >= '0' && b <= '9') {
                     digits++;
-                    number = digits > 3 ? number : number * 10 + bytes[next] - '0';
-                } else {
+                    number = digits > MOST_DIGITS ? number : number * 10 + (b - '0');
+                } else if (b >= 'a' && b <= 'z') {
                     letters++;
-                    word = letters > 7 ? word : withLetter(word, bytes[next]);
+                    word = letters > MOST_LETTERS ? word : withLetter(word, b);
+                } else {
+                    break;
                 }
-                next++;
             }
-            if (digits == 0 && letters <= 7) {
+            if (digits == 0 && letters <= MOST_LETTERS) {
                 kind = WORD;
-                key = keyOf(word);
             } else {
-                kind = letters == 0 && digits <= 3 ? NUMBER : NO_TOKEN;
+                kind = letters == 0 && digits <= MOST_DIGITS ? NUMBER : NO_TOKEN;
             }
         }
 
@@ -525,14 +533,6 @@ public final class OrangeFight {
 
         private static boolean isBlank(int b) {
             return b == 32 || b == 10;
-        }
-
-        private static boolean isLetter(int b) {
-            return b >= 'a' && b <= 'z';
-        }
-
-        private static boolean isDigit(int b) {
-            return b >= '0' && b <= '9';
         }
 
         private static boolean isSign(int b) {

@@ -31,6 +31,16 @@ final class Checks {
         }
     }
 
+    /** A new object in a TOWN with PLANS, both of which must be well told. */
+    OrangeFight inTown(String town, String plans) {
+        OrangeFight x = new OrangeFight();
+        put(x, town);
+        due("town '" + town + "' is well told", x.town() > 0, true);
+        put(x, plans);
+        due("plans '" + plans + "' are well told", x.plans() >= 0, true);
+        return x;
+    }
+
     /** The five numbers of the feed() that brings the bytes from a place on, zeros behind their end. */
     static int[] numbers(byte[] bytes, int from) {
         int[] fed = new int[5];

@@ -26,12 +26,7 @@ public final class DaysTest {
     }
 
     private static OrangeFight town(String text, String plans) {
-        OrangeFight x = new OrangeFight();
-        Checks.put(x, text);
-        CHECKS.due("town '" + text + "' is well told", x.town() > 0, true);
-        Checks.put(x, plans);
-        CHECKS.due("plans '" + plans + "' are well told", x.plans() >= 0, true);
-        return x;
+        return CHECKS.inTown(text, plans);
     }
 
     private static void thrown(OrangeFight x, int k, int... want) {

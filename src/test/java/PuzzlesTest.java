@@ -13,10 +13,7 @@ public final class PuzzlesTest {
     }
 
     private static OrangeFight town(String text) {
-        OrangeFight x = new OrangeFight();
-        Checks.put(x, text);
-        CHECKS.due("town '" + text + "' is well told", x.town() > 0, true);
-        return x;
+        return CHECKS.inTown(text, "");
     }
 
     private static void daysOf(OrangeFight x, int n, int want, int[] rows, int... tape) {
@@ -138,6 +135,12 @@ public final class PuzzlesTest {
         orderOf(town(town + near + near + near + near + near + near + near + far), 4, 0, 1, 2, 3, 7, 4, 5, 6);
         orderOf(town(town + none + none + none + none + none + none + none + near), 4, 0, 1, 2, 3, 7, 4, 5, 6);
         orderOf(town("square 10 10;quarter a 0 0 1 1;" + "cart 0 0 4 0 0;" + near), 1, 0, 1);
+        // The ninth QUARTER waits, too.
+        StringBuilder ninth = new StringBuilder("square 10 10;");
+        for (int q = 0; q < 9; q++) {
+            ninth.append("quarter ").append((char) ('a' + q)).append(" ").append(8 - q).append(" 0 1 1;");
+        }
+        orderOf(town(ninth + near + none + none), 1, 1, 0, 2);
         OrangeFight y = town(town + none + near);
         orderOf(y, 1, 0, 1);
         StringBuilder nine = new StringBuilder(town);

@@ -18,12 +18,7 @@ public final class SureDaysTest {
     }
 
     private static OrangeFight town(String text, String plans) {
-        OrangeFight x = new OrangeFight();
-        Checks.put(x, text);
-        CHECKS.due("town '" + text + "' is well told", x.town() > 0, true);
-        Checks.put(x, plans);
-        CHECKS.due("plans '" + plans + "' are well told", x.plans() >= 0, true);
-        return x;
+        return CHECKS.inTown(text, plans);
     }
 
     private static void sure() {
@@ -77,6 +72,8 @@ public final class SureDaysTest {
         OrangeFight z = town("square 10 10;quarter a 0 0 9 9;quarter b 9 4 9 9;cart 0 9 4 0 0;judge 0 0;", "b 9 9;");
         CHECKS.due("13 is not", z.best(0), 0);
         CHECKS.due("but the GRID has it", z.grid(0, 13, 2), 2);
+        CHECKS.due("one mark is more than none",
+            town("square 2 2;quarter a 0 0 1 1;cart 0 0 1 0 2;judge 0 0;law 1 0 0 0;", "").best(0), 101);
         // Marks below 0: best is to throw none.
         CHECKS.due("less is worse", town("square 2 2;quarter a 0 0 9 9;cart 0 0 0 0 0;judge 0 0;law 0 0 0 1;", "a 9 9;").best(0), 0);
     }
