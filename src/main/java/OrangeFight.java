@@ -44,7 +44,6 @@ public final class OrangeFight {
     /** In the order of the KEY_ numbers below, a blank behind each. */
     private static final String KEYWORDS =
         "square quarter cart cap drain judge spot law feint or and not feints joins boxes marks wounds aim sees place ";
-    private static final int KEYS = 20;
     private static final int KEY_SQUARE = 0;
     private static final int KEY_QUARTER = 1;
     private static final int KEY_CART = 2;
@@ -65,6 +64,7 @@ public final class OrangeFight {
     private static final int KEY_AIM = 17;
     private static final int KEY_SEES = 18;
     private static final int KEY_PLACE = 19;
+    private static final int KEYS = KEY_PLACE + 1;
 
     private final Tape tape = new Tape();
     private final Scene scene = new Scene();
@@ -633,13 +633,12 @@ public final class OrangeFight {
             law[3] = 0;
         }
 
+        /** All but what reading alone needs. */
         void takeFrom(Town other) {
-            lines = other.lines;
             width = other.width;
             height = other.height;
             quarters = other.quarters;
             carts = other.carts;
-            lawTold = other.lawTold;
             System.arraycopy(other.name, 0, name, 0, MOST_QUARTERS);
             copyRow(other.home, home);
             copyRow(other.boxes, boxes);

@@ -169,6 +169,10 @@ public final class TextsTest {
         town(square + "law 1 1 1" + times(" ", 879) + "01;", -901, 1);
         town(square + "law 1 1 1" + times(" ", 878) + "1;", 2, 0);
         town(square + "law 1 1 1" + times(" ", 878) + "1; ", -901, 1);
+        town("square 2 2" + times(" ", 889) + ";", 1, 0);
+        town("square 2 2" + times(" ", 890) + ";", -901, 1);
+        town(square + times(" ", 880) + "cart 200 " + "0 0 0 0;", -901, 1);
+        town(square + times(" ", 881) + "cart 200 " + "0 0 0 0;", -901, 1);
         town(square + times(" ", 888) + ";" + times(" ", 20), -900, 1);
         plans("a 1 1;" + times("\n", 394), 1, 0);
         plans("a 1 1;" + times("\n", 395), -401, 1);

@@ -22,7 +22,7 @@ public final class WildCallsTest {
     private static String fullTown() {
         StringBuilder s = new StringBuilder("square 10 10;");
         for (int q = 0; q < 9; q++) s.append("quarter ").append((char) ('a' + q)).append(" ").append(q).append(" 9 400 9;");
-        for (int c = 0; c < 20; c++) s.append("cart ").append(c % 2 == 0 ? c * 8 : 239).append(" ").append(c % 10).append(" 8 400 0;");
+        for (int c = 0; c < 20; c++) s.append("cart ").append(c * 8).append(" ").append(c % 10).append(" 8 400 0;");
         for (int i = 0; i < 12; i++) s.append("drain ").append(i % 10).append(" ").append(i / 10).append(";");
         for (int i = 0; i < 6; i++) s.append("judge ").append(i).append(" 9;");
         for (int q = 0; q < 6; q++) s.append("spot ").append((char) ('a' + q)).append(" 9 9;");
