@@ -8,6 +8,7 @@ public final class PuzzlesTest {
         walks();
         order();
         sand();
+        sandInTheCorner();
         sandForNine();
         CHECKS.close();
     }
@@ -216,6 +217,20 @@ public final class PuzzlesTest {
         x = town("square 9 9;" + wet("a", 3, 4, 4) + wet("b", 4, 4, 4) + wet("c", 5, 4, 4) + wet("d", 6, 4, 4));
         x.on(4);
         dry(x, 33, 45);
+    }
+
+    /** The last CELL of all serves three; what served in one TOWN does not in another. */
+    private static void sandInTheCorner() {
+        OrangeFight x = town("square 10 10;" + wet("a", 8, 9, 4) + wet("b", 9, 8, 4) + wet("c", 9, 9, 4));
+        x.on(4);
+        dry(x, 99);
+        x.sand(99);
+        dry(x);
+        Checks.put(x, "square 10 10;" + wet("a", 0, 0, 4) + wet("b", 9, 5, 4) + wet("c", 5, 9, 4));
+        CHECKS.due("another TOWN", x.town(), 10);
+        CHECKS.due("the latest slippery() had none", x.dry(0), -1);
+        x.on(4);
+        dry(x, 0, 49, 85);
     }
 
     private static void sandForNine() {

@@ -130,6 +130,8 @@ public final class TextsTest {
         town(TOWN + "spot b 3 0;spot b 1 1;", -66, 3);
         town(TOWN + "spot b 6 0;", -57, 2);
         town(TOWN + "cart 239 3 0 400 9;cart 239 3 0 0 0;", 5, 0);
+        town(TOWN + "cart 240 3 0 0 0;", -55, 2);
+        town(TOWN + "cart 0 3 0 401 0;", -61, 2);
         town(TOWN + "cart 0 3 0 0 10;", -63, 2);
         // Each sort is looked at by itself.
         town(TOWN + "cap 3 0;drain 3 0;judge 3 0;", 6, 0);
