@@ -440,9 +440,9 @@ public final class OrangeFight {
             int k = 0;
             long code = 0;
             for (int i = 0; i < KEYWORDS.length(); i++) {
-                char sign = KEYWORDS.charAt(i);
-                if (sign != ' ') {
-                    code = withLetter(code, sign);
+                char letter = KEYWORDS.charAt(i);
+                if (letter != ' ') {
+                    code = withLetter(code, letter);
                 } else if (k < KEYS) {
                     keywords[k] = code;
                     k++;
