@@ -1,4 +1,5 @@
 import java.nio.charset.StandardCharsets;
+import java.util.NoSuchElementException;
 
 /** What the tests share: counting wrong answers, and putting texts and bytes on a tape. */
 final class Checks {
@@ -17,6 +18,10 @@ final class Checks {
 
     void due(String what, boolean got, boolean want) {
         due(what, got ? 1 : 0, want ? 1 : 0);
+    }
+
+    void due(String what, long got, boolean want) {
+        due(what, got, want ? 1 : 0);
     }
 
     boolean isRight() {
@@ -39,6 +44,27 @@ final class Checks {
         put(x, plans);
         due("plans '" + plans + "' are well told", x.plans() >= 0, true);
         return x;
+    }
+
+    /** Puts a text on the tape and reads it as a TOWN (t), PLANS (p) or a SENTENCE (s): the answer, the FAULT, the tape. */
+    void reads(OrangeFight x, char sort, String text, int want, int kind) {
+        put(x, text);
+        int got = sort == 't' ? x.town() : sort == 'p' ? x.plans() : x.sentence();
+        due(sort + " '" + text + "'", got, want);
+        due("fault of '" + text + "'", x.fault(), kind);
+        due("the tape behind '" + text + "'", x.count(8), 0);
+    }
+
+    /** Asks for what there is not: the call must throw NoSuchElementException. */
+    void noSuch(OrangeFight x, String call, int of, int what) {
+        boolean threw = false;
+        try {
+            int got = call.equals("quarter") ? x.quarter(of, what) : call.equals("cart") ? x.cart(of, what) : x.cell(of, what);
+            due(call + "(" + of + ", " + what + ") where none is due", got, Long.MIN_VALUE);
+        } catch (NoSuchElementException e) {
+            threw = true;
+        }
+        due(call + "(" + of + ", " + what + ") throws", threw, true);
     }
 
     /** The five numbers of the feed() that brings the bytes from a place on, zeros behind their end. */

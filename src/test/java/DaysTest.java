@@ -1,5 +1,3 @@
-import java.util.NoSuchElementException;
-
 /** Promises 7 to 15, 35, 36 and 38 to 40: the three DAYS, with answers worked out by hand. */
 public final class DaysTest {
     private static final Checks CHECKS = new Checks();
@@ -80,14 +78,7 @@ public final class DaysTest {
         int[][] wrong = {{0, -1, 0}, {0, 2, 0}, {0, 0, -1}, {0, 0, 10}, {1, -1, 0}, {1, 2, 0}, {1, 0, -1}, {1, 0, 6},
             {2, -1, 0}, {2, 6, 0}, {2, 40, 0}, {2, 100, 0}, {2, 0, -1}, {2, 0, 6}, {2, Integer.MIN_VALUE, 0}};
         for (int[] w : wrong) {
-            boolean threw = false;
-            try {
-                int got = w[0] == 0 ? x.quarter(w[1], w[2]) : w[0] == 1 ? x.cart(w[1], w[2]) : x.cell(w[1], w[2]);
-                CHECKS.due("an answer where none is due", got, Long.MIN_VALUE);
-            } catch (NoSuchElementException e) {
-                threw = true;
-            }
-            CHECKS.due("call " + w[0] + " of " + w[1] + ", " + w[2] + " throws", threw, true);
+            CHECKS.noSuch(x, w[0] == 0 ? "quarter" : w[0] == 1 ? "cart" : "cell", w[1], w[2]);
         }
         now(x, 0, 0, 0, 0, 0, 0, 0, 0);
     }
@@ -188,10 +179,10 @@ public final class DaysTest {
 
     /** A QUARTER under two CARTS on its own CELL: all PULP is there, 4 a MINUTE by the CARTS and 1 by each box. */
     private static void slips() {
-        OrangeFight x = town("square 3 3;quarter a 1 1 400 1;cart 0 1 1 400 0;cart 0 1 1 400 0;judge 0 0;", "a 9 9 feint;");
         int slipped = 0;
         int feinted = 0;
         for (int seed = -3; seed < 30; seed++) {
+            OrangeFight x = town("square 3 3;quarter a 1 1 400 1;cart 0 1 1 400 0;cart 0 1 1 400 0;judge 0 0;", "a 9 9 feint;");
             x.begin(seed);
             drawn = seed;
             int pulp = 0;

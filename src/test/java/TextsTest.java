@@ -35,11 +35,7 @@ public final class TextsTest {
     }
 
     private static void read(OrangeFight x, char sort, String text, int want, int kind) {
-        Checks.put(x, text);
-        int got = sort == 't' ? x.town() : sort == 'p' ? x.plans() : x.sentence();
-        CHECKS.due(sort + " '" + text + "'", got, want);
-        CHECKS.due("fault of '" + text + "'", x.fault(), kind);
-        CHECKS.due("the tape behind '" + text + "'", x.count(8), 0);
+        CHECKS.reads(x, sort, text, want, kind);
     }
 
     private static String times(String piece, int n) {
