@@ -420,6 +420,8 @@ public final class OrangeFight {
         static final int NO_TOKEN = 5;
         static final int MOST_LETTERS = 7;
         static final int MOST_DIGITS = 3;
+        /** A WORD is kept as a number, a letter a digit of it. */
+        static final int LETTERS = 27;
 
         final int[] bytes = new int[MOST];
         int size;
@@ -442,7 +444,7 @@ public final class OrangeFight {
             for (int i = 0; i < KEYWORDS.length(); i++) {
                 char letter = KEYWORDS.charAt(i);
                 if (letter != ' ') {
-                    code = withLetter(code, letter);
+                    code = code * LETTERS + (letter - 'a' + 1);
                 } else if (k < KEYS) {
                     keywords[k] = code;
                     k++;
@@ -506,7 +508,7 @@ public final class OrangeFight {
                     number = digits > MOST_DIGITS ? number : number * 10 + (b - '0');
                 } else if (b >= 'a' && b <= 'z') {
                     letters++;
-                    word = letters > MOST_LETTERS ? word : withLetter(word, b);
+                    word = letters > MOST_LETTERS ? word : word * LETTERS + (b - 'a' + 1);
                 } else {
                     break;
                 }
@@ -525,10 +527,6 @@ public final class OrangeFight {
                 }
             }
             return NONE;
-        }
-
-        private static long withLetter(long code, int letter) {
-            return code * 27 + (letter - 'a' + 1);
         }
 
         private static boolean isBlank(int b) {

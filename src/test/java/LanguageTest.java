@@ -2,7 +2,10 @@ import java.io.IOException;
 import java.nio.file.Files;
 import java.nio.file.Path;
 import java.util.ArrayList;
+import java.util.HashMap;
+import java.util.HashSet;
 import java.util.List;
+import java.util.Map;
 import java.util.Set;
 import java.util.regex.Matcher;
 import java.util.regex.Pattern;
@@ -19,6 +22,7 @@ public final class LanguageTest {
         "\\btoString\\b", "\\bDouble\\b", "\\bStream", "\\bnull\\b", "\" \\+", "\\+ \""};
     private static final Pattern METHOD =
         Pattern.compile("^ +(public |private )?(static )?(int|long|boolean|void) (\\w+)\\(([^)]*)\\)[^;=]*\\{$");
+    private static final Pattern CALL = Pattern.compile("\\b(\\w+)\\(");
 
     public static void main(String[] args) throws IOException {
         List<String> lines = Files.readAllLines(Path.of("src/main/java/OrangeFight.java"));
@@ -28,6 +32,7 @@ public final class LanguageTest {
         methods(lines);
         statics(lines);
         classes(lines);
+        depths(lines);
         CHECKS.close();
     }
 
@@ -104,5 +109,39 @@ public final class LanguageTest {
             }
         }
         CHECKS.due("classes", many <= 12, true);
+    }
+
+    /** Rule 11: at most eight calls within one another, each method once (by its name alone, so rather too deep than not). */
+    private static void depths(List<String> lines) {
+        Map<String, Set<String>> calls = new HashMap<>();
+        Set<String> within = new HashSet<>();
+        for (String line : lines) {
+            Matcher m = METHOD.matcher(line);
+            if (m.matches()) {
+                within = calls.computeIfAbsent(m.group(4), name -> new HashSet<>());
+            } else {
+                Matcher call = CALL.matcher(code(line));
+                while (call.find()) {
+                    within.add(call.group(1));
+                }
+            }
+        }
+        for (String name : FACE) {
+            int depth = depth(name, calls, new ArrayList<>());
+            CHECKS.due("depth of " + name + ", " + depth + ",", depth <= 8, true);
+        }
+    }
+
+    private static int depth(String name, Map<String, Set<String>> calls, List<String> open) {
+        if (!calls.containsKey(name) || open.contains(name)) {
+            return 0;
+        }
+        int most = 0;
+        open.add(name);
+        for (String called : calls.get(name)) {
+            most = Math.max(most, depth(called, calls, open));
+        }
+        open.remove(open.size() - 1);
+        return most + 1;
     }
 }
